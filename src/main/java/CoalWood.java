@@ -91,7 +91,12 @@ public final class CoalWood {
         if (!pit.hasLump(lump)) {
             return counted(BAD);
         }
-        return counted(pit.isBurnt(lump) ? NO : pit.light(lump));
+        if (pit.isBurnt(lump)) {
+            return counted(NO);
+        }
+        int paid = pit.worth(lump);
+        pit.light(lump, paid);
+        return paid;
     }
 
     public int undo() {
@@ -598,14 +603,11 @@ public final class CoalWood {
             return (burnt >> lump & 1) == 1;
         }
 
-        /** A LUMP is burnt: what is paid. */
-        int light(int lump) {
+        void light(int lump, int paid) {
             past.add(burnt, money, clock);
-            int paid = worth(lump);
             burnt |= 1 << lump;
             money += paid;
             clock += steps(lump);
-            return paid;
         }
 
         /** MONEY as ahead of the last LUMP burnt, or NO. */
@@ -629,12 +631,12 @@ public final class CoalWood {
             return kinds[kind].burnsFor(lumps.at(lump, SIZE));
         }
 
-        /** The LAYER of the seam that coal cut so would show. */
-        int layerOf(int kind, int a, int n, int t) {
+        /** The WEATHER that a lump of a KIND, cut from a LAYER on, would show; NONE: smoke or ash. */
+        int weatherOfCut(int kind, int a, int n, int t) {
             if (kind < 0 || kind >= kinds.length) {
                 return NONE;
             }
-            return inSeam(a, kinds[kind].own(n, t));
+            return weatherIn(inSeam(a, kinds[kind].own(n, t)));
         }
 
         int layerShown(int lump, int t) {
@@ -1083,13 +1085,11 @@ public final class CoalWood {
         /** How many AFTERNOONS lie whole between two cuts. */
         private static int wholeWithin(int[] weathers, int from, int to) {
             int whole = 0;
-            int began = NONE;
-            for (int l = from; l < to && l < weathers.length; l++) {
-                if (l == 0 || weathers[l] != weathers[l - 1]) {
-                    began = l;
-                }
+            boolean begun = false;
+            for (int l = Math.max(from, 0); l < to && l < weathers.length; l++) {
+                begun = begun || l == 0 || weathers[l] != weathers[l - 1];
                 boolean ends = l + 1 >= weathers.length || weathers[l] != weathers[l + 1];
-                if (ends && began != NONE) {
+                if (begun && ends) {
                     whole++;
                 }
             }
@@ -1111,7 +1111,8 @@ public final class CoalWood {
             int found = 0;
             firstFit = NONE;
             for (int pair = 0; pair < fitting.length; pair++) {
-                fitting[pair] = pair % LAYERS + pit.sightSize <= LAYERS && fitsAll(pit, pair);
+                int a = pair % LAYERS;
+                fitting[pair] = a + pit.sightSize <= LAYERS && fitsAll(pit, pair / LAYERS, a);
                 if (fitting[pair]) {
                     found++;
                     if (firstFit == NONE) {
@@ -1122,17 +1123,14 @@ public final class CoalWood {
             return found;
         }
 
-        private static boolean fitsAll(Pit pit, int pair) {
+        private static boolean fitsAll(Pit pit, int kind, int a) {
             for (int k = 0; k < pit.sights.size; k++) {
-                if (weatherOf(pit, pair, pit.sights.at(k, 0)) != pit.sights.at(k, 1)) {
+                int shown = pit.weatherOfCut(kind, a, pit.sightSize, pit.sights.at(k, 0));
+                if (shown != pit.sights.at(k, 1)) {
                     return false;
                 }
             }
             return true;
-        }
-
-        private static int weatherOf(Pit pit, int pair, int t) {
-            return pit.weatherIn(pit.layerOf(pair / LAYERS, pair % LAYERS, pit.sightSize, t));
         }
 
         /** The STEP that parts the pairs marked best. */
@@ -1155,7 +1153,7 @@ public final class CoalWood {
             int most = 0;
             for (int pair = 0; pair < fitting.length; pair++) {
                 if (fitting[pair]) {
-                    int weather = weatherOf(pit, pair, t);
+                    int weather = pit.weatherOfCut(pair / LAYERS, pair % LAYERS, pit.sightSize, t);
                     int group = isWeather(weather) ? weather : WEATHERS;
                     alike[group]++;
                     most = Math.max(most, alike[group]);
