@@ -176,7 +176,8 @@ public final class CoalWood {
         if (!within(purse, 0, MOST_PURSE) || !within(what, 0, 1)) {
             return counted(BAD);
         }
-        int bits = plans.bestFor(pit, purse);
+        plans.weigh(pit);
+        int bits = plans.bestFor(purse, pit.burnt);
         return what == 0 ? bits : plans.bestWorth;
     }
 
@@ -252,14 +253,12 @@ public final class CoalWood {
         if (!within(seed, 0, MOST_SEED) || !within(n, 0, MOST_DRAWN)) {
             return counted(BAD);
         }
+        plans.weigh(pit);
         long x = seed;
         int worth = 0;
         for (int k = 0; k < n; k++) {
             x = (x * 1103515245L + 12345L) % 2147483648L;
-            int lump = (int) (x / 65536L % LUMPS);
-            if (pit.hasLump(lump)) {
-                worth += pit.worth(lump);
-            }
+            worth += plans.worthOf((int) (x / 65536L % LUMPS));
         }
         return worth;
     }
@@ -1015,17 +1014,25 @@ public final class CoalWood {
             return NONE;
         }
 
-        /** Which LUMPS are best, as bits; how much they are WORTH is kept in bestWorth. */
-        int bestFor(Pit pit, int purse) {
-            int lumps = Math.min(pit.lumps.size, LUMPS);
-            for (int lump = 0; lump < lumps; lump++) {
-                costs[lump] = 2 * pit.lumps.at(lump, Pit.SIZE);
-                worths[lump] = pit.worth(lump);
+        /** What each LUMP costs and is worth; one that is not there, nothing. */
+        void weigh(Pit pit) {
+            for (int lump = 0; lump < LUMPS; lump++) {
+                boolean there = pit.hasLump(lump);
+                costs[lump] = there ? 2 * pit.lumps.at(lump, Pit.SIZE) : 0;
+                worths[lump] = there ? pit.worth(lump) : 0;
             }
+        }
+
+        int worthOf(int lump) {
+            return lump >= 0 && lump < worths.length ? worths[lump] : 0;
+        }
+
+        /** Of the LUMPS weighed last, which are best, as bits; how much they are worth is bestWorth. */
+        int bestFor(int purse, int burnt) {
             int bits = 0;
             bestWorth = 0;
-            for (int set = 0; set < 1 << lumps; set++) {
-                if ((set & pit.burnt) == 0 && sumOver(costs, set) <= purse) {
+            for (int set = 0; set < SETS; set++) {
+                if ((set & burnt) == 0 && sumOver(costs, set) <= purse) {
                     int worth = sumOver(worths, set);
                     if (worth > bestWorth) {
                         bestWorth = worth;

@@ -97,6 +97,13 @@ public final class EveningTest {
         tell(x, 0, 1, 0, 1);
         fewest("of three, the first", x, 0, 1, 2);
         due("two rows of three", x.rows(), 2);
+        CoalWood z = new CoalWood();
+        z.layer(1, 1);
+        z.lump(0, 0, 2);
+        z.lump(0, 0, 1);
+        z.lump(0, 1, 1);
+        tell(z, 0, 1);
+        fewest("one lump, two come later", z, 0);
         CoalWood y = new CoalWood();
         y.layer(1, 1);
         y.lump(0, 0, 2);
@@ -158,6 +165,8 @@ public final class EveningTest {
     /** Promise 19. */
     private static void best() {
         CoalWood x = Pits.kinds();
+        due("best(0, 0)", x.best(0, 0), 0);
+        due("best(0, 1)", x.best(0, 1), 0);
         due("best(5, 0)", x.best(5, 0), 0);
         due("best(5, 1)", x.best(5, 1), 0);
         due("best(6, 0)", x.best(6, 0), 8);

@@ -141,6 +141,11 @@ public final class FiresTest {
         due("SLACK of 1", y.of(0, 4), 1);
         due("SLACK of 4", y.of(1, 4), 2);
         due("SLACK of 5", y.of(2, 4), 3);
+        y.price(0, 9);
+        y.lump(3, 6, 6);
+        due("DAMP of 6: STEPS", y.of(3, 4), 12);
+        due("DAMP of 6: WEATHERS", y.of(3, 5), 12);
+        due("DAMP of 6: WORTH", y.of(3, 6), 108);
     }
 
     /** Promise 12: each row says what a kind of size 3 from layer 3 on shows. */

@@ -214,6 +214,11 @@ public final class PitTest {
         fault("pit1;", 3);
         fault("pit;3;", 4);
         fault("pit;coal 1 1;", 4);
+        fault("qit;", 0);
+        fault("pit;mayer 0 0;", 4);
+        fault("pit;brice 0 0;", 4);
+        fault("pit;dump 0 0 1;", 4);
+        fault("pit;lumps 0 0 1;", 4);
         fault("pit;la", 4);
         fault("pit;layer", 9);
         fault("pit;layer 1", 11);
@@ -269,6 +274,13 @@ public final class PitTest {
         due("eight lumps: count(0)", x.count(0), 8);
         due("nine, then", Pits.read(x, nine), -1009);
         due("nine, then: count(0)", x.count(0), 8);
+        due("one lump", Pits.read(x, "pit;lump 2 0 3;"), 2);
+        due("refused behind it", Pits.read(x, "pit;lump 1 1 1;lump 1 1 1;layer 12 0;"), -1003);
+        due("one lump still", x.count(0), 1);
+        due("and the same", x.of(0, 0), 2);
+        due("a fault behind it", Pits.read(x, "pit;lump 1 1 1;lump 1 1 1"), -35);
+        due("one lump still", x.count(0), 1);
+        x.clear();
         due("as many items as a text can hold", Pits.read(x, "pit;" + "price0 1;".repeat(16)), 17);
     }
 }

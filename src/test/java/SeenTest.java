@@ -140,6 +140,15 @@ public final class SeenTest {
         due("look, DAMP alone: all steps are like", x.look(), 0);
         x.seen(1, 2, 0);
         due("look, no pair", x.look(), CoalWood.NONE);
+        CoalWood z = new CoalWood();
+        int[] weathers = {1, 2, 3, 0, 0, 4, 2, 1, 0, 0, 0, 0};
+        for (int l = 0; l < 12; l++) {
+            z.layer(l, weathers[l]);
+        }
+        z.seen(3, 0, 1);
+        z.seen(3, 1, 2);
+        due("look, PLAIN 0 or BACK 5", z.fits(0), 2);
+        due("look, these are unlike in STEP 2", z.look(), 2);
         due("NONE is not in STATUS", x.status(0), 0);
         CoalWood y = new CoalWood();
         y.seen(6, 11, 0);
@@ -269,6 +278,12 @@ public final class SeenTest {
     private static void leftTo() {
         CoalWood x = new CoalWood();
         due("leftTo, all like: the first", x.leftTo(), 0);
+        CoalWood y = new CoalWood();
+        y.glimpse(0, 8, 0);
+        due("leftTo, one cell less in LAYER 0", y.leftTo(), 1);
+        y.glimpse(1, 0, 0);
+        y.glimpse(2, 0, 0);
+        due("leftTo, one less in LAYERS 0, 1, 2", y.leftTo(), 3);
         x.glimpse(0, 4, 1);
         due("leftTo, from the middle all in two days", x.leftTo(), 2);
         x.glimpse(2, 0, 0);
