@@ -1189,7 +1189,9 @@ public final class CoalWood {
         }
 
         private void closeCells(Table glimpses) {
-            Arrays.fill(open, true);
+            for (int here = 0; here < open.length; here++) {
+                open[here] = true;
+            }
             for (int k = 0; k < glimpses.size; k++) {
                 int layer = glimpses.at(k, 0);
                 boolean there = glimpses.at(k, 2) == 1;
