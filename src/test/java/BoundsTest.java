@@ -1,6 +1,8 @@
 import java.util.ArrayList;
+import java.util.Arrays;
 import java.util.List;
 import java.util.function.Supplier;
+import java.util.function.ToLongFunction;
 
 /**
  * The bounds of every number of every call: the last that is allowed and the first that is not, on both sides, the
@@ -96,7 +98,7 @@ public final class BoundsTest {
         for (int a : edges(call, 0)) {
             for (int b : edges(call, 1)) {
                 for (int c : edges(call, 2)) {
-                    tryNumbers(state, made, call, full, a, b, c);
+                    tryNumbers(state, made, call, full, new int[] {a, b, c});
                 }
             }
         }
@@ -112,20 +114,20 @@ public final class BoundsTest {
         return new int[] {MIN, least - 1, least, most, most == MAX ? MIN : most + 1, MAX};
     }
 
-    private static void tryNumbers(String state, Supplier<CoalWood> made, Call call, boolean full, int a, int b, int c) {
-        int[] numbers = {a, b, c};
+    private static void tryNumbers(String state, Supplier<CoalWood> made, Call call, boolean full, int[] numbers) {
         boolean right = true;
         for (int k = 0; k < call.numbers(); k++) {
             right &= call.least(k) <= numbers[k] && numbers[k] <= call.most(k);
         }
-        String name = state + ": " + call.name + " of " + a + ", " + b + ", " + c;
+        String name = state + ": " + call.name + " of " + Arrays.toString(numbers);
+        ToLongFunction<CoalWood> ask = x -> call.ask.of(x, numbers[0], numbers[1], numbers[2]);
         Twins twins = new Twins(CHECK, made);
         if (!right) {
-            twins.answers(name, x -> call.ask.of(x, a, b, c), call.wrong, Twins.BAD).areAlike(name);
+            twins.answers(name, ask, call.wrong, Twins.BAD).areAlike(name);
         } else if (full) {
-            twins.answers(name, x -> call.ask.of(x, a, b, c), CoalWood.FULL, Twins.FULL).areAlike(name);
+            twins.answers(name, ask, CoalWood.FULL, Twins.FULL).areAlike(name);
         } else {
-            long answer = twins.allowed(name, x -> call.ask.of(x, a, b, c));
+            long answer = twins.allowed(name, ask);
             CHECK.that(name + " answered " + answer, answer >= 0 || answer == CoalWood.NONE || answer == -5);
         }
     }
@@ -178,8 +180,8 @@ public final class BoundsTest {
     private static void clashOfOne() {
         for (int lump = -1; lump <= 8; lump++) {
             int i = lump;
-            new Twins(CHECK, Pits::brimful).answers("clash of " + i + " and itself", x -> x.clash(i, i, 0), -2, Twins.BAD)
-                .areAlike("clash of " + i + " and itself");
+            String name = "clash of " + i + " and itself";
+            new Twins(CHECK, Pits::brimful).answers(name, x -> x.clash(i, i, 0), -2, Twins.BAD).areAlike(name);
         }
     }
 }

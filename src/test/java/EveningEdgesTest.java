@@ -1,6 +1,7 @@
 /** Boundary cases of promises 15 to 20, each with the sentence of the document that names it. */
 public final class EveningEdgesTest {
     private static final Check CHECK = new Check("EveningEdgesTest");
+    private static final Evenings EVENINGS = new Evenings(CHECK);
     private static final int MAX = Integer.MAX_VALUE;
     private static final int MIN = Integer.MIN_VALUE;
     private static final int PLAIN = 0, BACK = 1, DAMP = 3, CANNEL = 4, SPIT = 5;
@@ -34,27 +35,6 @@ public final class EveningEdgesTest {
         cutWrong();
         cutFewestThenFirst();
         CHECK.end();
-    }
-
-    private static void tell(CoalWood x, int... weathers) {
-        x.dark();
-        for (int weather : weathers) {
-            x.evening(weather);
-        }
-    }
-
-    private static void fewest(String what, CoalWood x, int... lumps) {
-        due(what + ": how many", x.fewest(CoalWood.NONE), lumps.length);
-        for (int i = 0; i < lumps.length; i++) {
-            due(what + ": the " + i + "-th", x.fewest(i), lumps[i]);
-        }
-        due(what + ": not so many", x.fewest(lumps.length), -5);
-    }
-
-    private static void none(String what, CoalWood x) {
-        due(what + ": none", x.fewest(CoalWood.NONE), -5);
-        due(what + ": the 0-th of none", x.fewest(0), -5);
-        due(what + ": rows", x.rows(), 0);
     }
 
     /** "THE EVENING is a row of 0 to 10 WEATHERS."; "how many it has. BAD; FULL: 10." */
@@ -92,26 +72,26 @@ public final class EveningEdgesTest {
     /** "(An empty EVENING: no LUMP, one row.)" */
     private static void fewestOfAnEmptyEvening() {
         CoalWood x = Pits.kinds();
-        fewest("empty", x);
+        EVENINGS.fewest("empty", x);
         due("empty: rows", x.rows(), 1);
-        tell(x, 3);
-        none("of one weather", x);
+        Evenings.tell(x, 3);
+        EVENINGS.none("of one weather", x);
         x.dark();
-        fewest("empty again", x);
+        EVENINGS.fewest("empty again", x);
         due("empty again: rows", x.rows(), 1);
         for (int k = 0; k < 6; k++) {
             x.burn(k);
         }
-        fewest("empty, all BURNT", x);
+        EVENINGS.fewest("empty, all BURNT", x);
         due("empty, all BURNT: rows", x.rows(), 1);
     }
 
     private static void fewestWithoutLumps() {
         CoalWood x = new CoalWood();
-        fewest("no lumps, an empty evening", x);
+        EVENINGS.fewest("no lumps, an empty evening", x);
         due("no lumps, an empty evening: rows", x.rows(), 1);
         x.evening(0);
-        none("no lumps", x);
+        EVENINGS.none("no lumps", x);
     }
 
     /** All eight LUMPS in one row, and the seven that are enough. */
@@ -123,15 +103,15 @@ public final class EveningEdgesTest {
         for (int k = 0; k < 8; k++) {
             x.lump(PLAIN, (7 - k) % 6, 1);
         }
-        tell(x, 5, 4, 3, 2, 1, 0, 0, 1);
-        fewest("all eight", x, 2, 3, 4, 5, 0, 1, 7, 6);
+        Evenings.tell(x, 5, 4, 3, 2, 1, 0, 0, 1);
+        EVENINGS.fewest("all eight", x, 2, 3, 4, 5, 0, 1, 7, 6);
         due("all eight: rows", x.rows(), 4);
         due("the 7-th", x.fewest(7), 6);
         due("the 8-th", x.fewest(8), -5);
         x.evening(2);
-        none("nine weathers of eight lumps", x);
-        tell(x, 5, 4, 3, 2, 1, 0, 0);
-        fewest("seven", x, 2, 3, 4, 5, 0, 1, 7);
+        EVENINGS.none("nine weathers of eight lumps", x);
+        Evenings.tell(x, 5, 4, 3, 2, 1, 0, 0);
+        EVENINGS.fewest("seven", x, 2, 3, 4, 5, 0, 1, 7);
         due("seven: rows", x.rows(), 4);
     }
 
@@ -139,9 +119,9 @@ public final class EveningEdgesTest {
     private static void fewestNotSoMany() {
         int[] numbers = {2, 3, 7, 8, 10, 99, MAX - 1, MAX};
         for (int i : numbers) {
-            String name = "fewest(" + i + ") of two";
+            String name = "EVENINGS.fewest(" + i + ") of two";
             new Twins(CHECK, EveningEdgesTest::two).answers(name, x -> x.fewest(i), -5, Twins.NOWHERE).areAlike(name);
-            name = "fewest(" + i + ") of none";
+            name = "EVENINGS.fewest(" + i + ") of none";
             new Twins(CHECK, Pits::middle).answers(name, x -> x.fewest(i), -5, Twins.NOWHERE).areAlike(name);
         }
         due("the last of two", two().fewest(1), 5);
@@ -149,7 +129,7 @@ public final class EveningEdgesTest {
 
     private static CoalWood two() {
         CoalWood x = Pits.kinds();
-        tell(x, 3, 3, 1, 3, 3, 1);
+        Evenings.tell(x, 3, 3, 1, 3, 3, 1);
         return x;
     }
 
@@ -157,7 +137,7 @@ public final class EveningEdgesTest {
     private static void fewestWrong() {
         int[] numbers = {-2, -3, -5, -10, MIN + 1, MIN};
         for (int i : numbers) {
-            String name = "fewest(" + i + ")";
+            String name = "EVENINGS.fewest(" + i + ")";
             new Twins(CHECK, EveningEdgesTest::two).answers(name, x -> x.fewest(i), -10, Twins.BAD).areAlike(name);
             new Twins(CHECK, CoalWood::new).answers(name, x -> x.fewest(i), -10, Twins.BAD).areAlike(name);
             new Twins(CHECK, Pits::brimful).answers(name, x -> x.fewest(i), -10, Twins.BAD).areAlike(name);
@@ -176,14 +156,14 @@ public final class EveningEdgesTest {
         CoalWood y = new CoalWood();
         y.layer(2, 1);
         y.lump(PLAIN, 0, 3);
-        tell(y, 0, 0, 0);
-        none("unlike in the last", y);
-        tell(y, 1, 0, 1);
-        none("unlike in the first", y);
-        tell(y, 0, 1, 1);
-        none("unlike in the middle", y);
-        tell(y, 0, 0, 1);
-        fewest("alike", y, 0);
+        Evenings.tell(y, 0, 0, 0);
+        EVENINGS.none("unlike in the last", y);
+        Evenings.tell(y, 1, 0, 1);
+        EVENINGS.none("unlike in the first", y);
+        Evenings.tell(y, 0, 1, 1);
+        EVENINGS.none("unlike in the middle", y);
+        Evenings.tell(y, 0, 0, 1);
+        EVENINGS.fewest("alike", y, 0);
     }
 
     /** A DAMP LUMP of 5 shows 10 WEATHERS, as many as THE EVENING holds; one of 6 shows 12, too many for any. */
@@ -195,17 +175,17 @@ public final class EveningEdgesTest {
             x.evening(0);
             due("for " + k, x.fewest(CoalWood.NONE), k == 10 ? 1 : -5);
         }
-        fewest("ten weathers", x, 1);
+        EVENINGS.fewest("ten weathers", x, 1);
         x.burn(1);
-        none("the one of 12 alone", x);
+        EVENINGS.none("the one of 12 alone", x);
         CoalWood y = new CoalWood();
         y.layer(4, 5);
         y.lump(DAMP, 0, 4);
         y.lump(PLAIN, 3, 2);
-        tell(y, 0, 0, 0, 0, 0, 0, 0, 0, 0, 5);
-        fewest("eight and two", y, 0, 1);
-        tell(y, 0, 0, 0, 0, 0, 0, 0, 0, 5, 0);
-        none("two do not fit behind eight", y);
+        Evenings.tell(y, 0, 0, 0, 0, 0, 0, 0, 0, 0, 5);
+        EVENINGS.fewest("eight and two", y, 0, 1);
+        Evenings.tell(y, 0, 0, 0, 0, 0, 0, 0, 0, 5, 0);
+        EVENINGS.none("two do not fit behind eight", y);
     }
 
     /** "those of smoke left out": what smokes first or last joins what stands beside it. */
@@ -214,14 +194,14 @@ public final class EveningEdgesTest {
         x.layer(1, 1);
         x.lump(CANNEL, 0, 2);
         x.lump(SPIT, 0, 2);
-        tell(x, 1, 0);
-        fewest("CANNEL", x, 0);
-        tell(x, 0, 1);
-        fewest("SPIT", x, 1);
-        tell(x, 1, 0, 0, 1);
-        fewest("CANNEL, SPIT", x, 0, 1);
-        tell(x, 0, 1, 1, 0);
-        fewest("SPIT, CANNEL", x, 1, 0);
+        Evenings.tell(x, 1, 0);
+        EVENINGS.fewest("CANNEL", x, 0);
+        Evenings.tell(x, 0, 1);
+        EVENINGS.fewest("SPIT", x, 1);
+        Evenings.tell(x, 1, 0, 0, 1);
+        EVENINGS.fewest("CANNEL, SPIT", x, 0, 1);
+        Evenings.tell(x, 0, 1, 1, 0);
+        EVENINGS.fewest("SPIT, CANNEL", x, 1, 0);
         due("SPIT, CANNEL: rows", x.rows(), 1);
     }
 
@@ -231,36 +211,36 @@ public final class EveningEdgesTest {
         for (int k = 0; k < 8; k++) {
             x.lump(k % 6, 0, 1);
         }
-        tell(x, 0, 0, 0);
-        fewest("three: DAMP and another", x, 0, 3);
+        Evenings.tell(x, 0, 0, 0);
+        EVENINGS.fewest("three: DAMP and another", x, 0, 3);
         due("three: rows", x.rows(), 7 * 2 + 7 * 6 * 5);
         x.burn(0);
-        fewest("three, 0 BURNT", x, 1, 3);
+        EVENINGS.fewest("three, 0 BURNT", x, 1, 3);
         x.burn(1);
         x.burn(2);
-        fewest("three, 0 to 2 BURNT", x, 3, 4);
+        EVENINGS.fewest("three, 0 to 2 BURNT", x, 3, 4);
         x.burn(3);
-        fewest("three, DAMP BURNT", x, 4, 5, 6);
+        EVENINGS.fewest("three, DAMP BURNT", x, 4, 5, 6);
         x.burn(7);
-        fewest("three are left", x, 4, 5, 6);
+        EVENINGS.fewest("three are left", x, 4, 5, 6);
         due("three are left: rows", x.rows(), 6);
         x.burn(5);
-        none("two are left", x);
+        EVENINGS.none("two are left", x);
     }
 
     private static void fewestNotBurnt() {
         CoalWood x = Pits.kinds();
-        tell(x, 3, 3, 1);
+        Evenings.tell(x, 3, 3, 1);
         for (int k = 0; k < 6; k++) {
             if (k != 5) {
                 x.burn(k);
             }
         }
-        fewest("the last that is not BURNT", x, 5);
+        EVENINGS.fewest("the last that is not BURNT", x, 5);
         x.burn(5);
-        none("all BURNT", x);
+        EVENINGS.none("all BURNT", x);
         x.undo();
-        fewest("undone", x, 5);
+        EVENINGS.fewest("undone", x, 5);
     }
 
     /** "HOW MANY such rows there are, of any number of LUMPS": eight like ones for eight. */
@@ -269,16 +249,16 @@ public final class EveningEdgesTest {
         for (int k = 0; k < 8; k++) {
             x.lump(PLAIN, k, 1);
         }
-        tell(x, 0, 0, 0, 0, 0, 0, 0, 0);
+        Evenings.tell(x, 0, 0, 0, 0, 0, 0, 0, 0);
         due("eight of eight", x.rows(), 40320);
-        fewest("eight of eight", x, 0, 1, 2, 3, 4, 5, 6, 7);
+        EVENINGS.fewest("eight of eight", x, 0, 1, 2, 3, 4, 5, 6, 7);
         CoalWood y = new CoalWood();
         for (int k = 0; k < 8; k++) {
             y.lump(PLAIN, 0, 1 + k / 4);
         }
-        tell(y, 0, 0, 0, 0, 0, 0, 0, 0, 0, 0);
+        Evenings.tell(y, 0, 0, 0, 0, 0, 0, 0, 0, 0, 0);
         due("ten by ones and twos", y.rows(), 6 * 720 + 4 * 5040);
-        fewest("ten by ones and twos", y, 0, 1, 4, 5, 6, 7);
+        EVENINGS.fewest("ten by ones and twos", y, 0, 1, 4, 5, 6, 7);
     }
 
     private static void rowsNone() {
@@ -286,10 +266,10 @@ public final class EveningEdgesTest {
         for (int k = 0; k < 8; k++) {
             x.lump(PLAIN, k, 1);
         }
-        tell(x, 0, 0, 0, 0, 0, 0, 0, 0, 0);
-        none("nine of eight", x);
-        tell(x, 0, 0, 0, 0, 0, 0, 0, 1);
-        none("the last is unlike", x);
+        Evenings.tell(x, 0, 0, 0, 0, 0, 0, 0, 0, 0);
+        EVENINGS.none("nine of eight", x);
+        Evenings.tell(x, 0, 0, 0, 0, 0, 0, 0, 1);
+        EVENINGS.none("the last is unlike", x);
         due("-5 counts nowhere", x.status(0) + x.status(1) + x.status(2), 0);
     }
 
@@ -379,30 +359,21 @@ public final class EveningEdgesTest {
         due("11", x.best(11, 0), 0);
     }
 
-    private static void cut(String what, CoalWood x, int c, int whole, int... sizes) {
-        due(what + ": AFTERNOONS", x.cut(c, -2), whole);
-        due(what + ": LUMPS", x.cut(c, CoalWood.NONE), sizes.length);
-        for (int i = 0; i < sizes.length; i++) {
-            due(what + ": the " + i + "-th", x.cut(c, i), sizes[i]);
-        }
-        due(what + ": not so many", x.cut(c, sizes.length), -5);
-    }
-
     /** "CUT of SIZE c (1 .. 6)": by 1 there is one way alone, of twelve. */
     private static void cutByOne() {
         CoalWood x = new CoalWood();
         int[] ones = {1, 1, 1, 1, 1, 1, 1, 1, 1, 1, 1, 1};
-        cut("one afternoon", x, 1, 0, ones);
+        EVENINGS.cut("one afternoon", x, 1, 0, ones);
         x.layer(0, 5);
-        cut("one of 1 at the beginning", x, 1, 1, ones);
+        EVENINGS.cut("one of 1 at the beginning", x, 1, 1, ones);
         x.layer(11, 5);
-        cut("and one at the end", x, 1, 2, ones);
+        EVENINGS.cut("and one at the end", x, 1, 2, ones);
         for (int l = 0; l < 12; l += 2) {
             x.layer(l, 1);
             x.layer(l + 1, 2);
         }
-        cut("twelve afternoons", x, 1, 12, ones);
-        cut("twelve afternoons by 6", x, 6, 12, 6, 6);
+        EVENINGS.cut("twelve afternoons", x, 1, 12, ones);
+        EVENINGS.cut("twelve afternoons by 6", x, 6, 12, 6, 6);
     }
 
     /** "An AFTERNOON: LAYERS side by side of one WEATHER, as many as there are.": of just c it can lie whole. */
@@ -425,10 +396,10 @@ public final class EveningEdgesTest {
         for (int l = 3; l < 9; l++) {
             x.layer(l, 4);
         }
-        cut("six in the middle by 6", x, 6, 3, 3, 6, 3);
-        cut("six in the middle by 5", x, 5, 2, 3, 4, 5);
+        EVENINGS.cut("six in the middle by 6", x, 6, 3, 3, 6, 3);
+        EVENINGS.cut("six in the middle by 5", x, 5, 2, 3, 4, 5);
         x.layer(9, 4);
-        cut("seven in the middle by 6", x, 6, 2, 6, 6);
+        EVENINGS.cut("seven in the middle by 6", x, 6, 2, 6, 6);
     }
 
     /** "the SIZE of the i-th"; "-5: not so many." */
@@ -446,7 +417,7 @@ public final class EveningEdgesTest {
             due("by " + c + ", all together", sum, 12);
             int[] numbers = {lumps, lumps + 1, 12, 13, MAX - 1, MAX};
             for (int i : numbers) {
-                String name = "cut(" + c + ", " + i + ")";
+                String name = "EVENINGS.cut(" + c + ", " + i + ")";
                 new Twins(CHECK, CoalWood::new).answers(name, y -> y.cut(size, i), -5, Twins.NOWHERE).areAlike(name);
             }
         }
@@ -461,7 +432,7 @@ public final class EveningEdgesTest {
             {0, MAX}, {7, MAX}, {MIN, MIN}, {MAX, MIN}
         };
         for (int[] pair : numbers) {
-            String name = "cut(" + pair[0] + ", " + pair[1] + ")";
+            String name = "EVENINGS.cut(" + pair[0] + ", " + pair[1] + ")";
             new Twins(CHECK, Pits::middle).answers(name, x -> x.cut(pair[0], pair[1]), -10, Twins.BAD).areAlike(name);
         }
     }
@@ -469,25 +440,25 @@ public final class EveningEdgesTest {
     /** "The most AFTERNOONS ..; the fewest LUMPS by which so many do; .. the first such row (rising)" */
     private static void cutFewestThenFirst() {
         CoalWood x = new CoalWood();
-        cut("12 by 2", x, 2, 0, 2, 2, 2, 2, 2, 2);
-        cut("12 by 3", x, 3, 0, 3, 3, 3, 3);
-        cut("12 by 4", x, 4, 0, 4, 4, 4);
-        cut("12 by 5", x, 5, 0, 2, 5, 5);
-        cut("12 by 6", x, 6, 0, 6, 6);
+        EVENINGS.cut("12 by 2", x, 2, 0, 2, 2, 2, 2, 2, 2);
+        EVENINGS.cut("12 by 3", x, 3, 0, 3, 3, 3, 3);
+        EVENINGS.cut("12 by 4", x, 4, 0, 4, 4, 4);
+        EVENINGS.cut("12 by 5", x, 5, 0, 2, 5, 5);
+        EVENINGS.cut("12 by 6", x, 6, 0, 6, 6);
         x.layer(0, 1);
-        cut("1 and 11 by 5", x, 5, 1, 2, 5, 5);
+        EVENINGS.cut("1 and 11 by 5", x, 5, 1, 2, 5, 5);
         x.layer(1, 1);
         x.layer(2, 1);
-        cut("3 and 9 by 5", x, 5, 1, 3, 4, 5);
+        EVENINGS.cut("3 and 9 by 5", x, 5, 1, 3, 4, 5);
         x.layer(3, 1);
-        cut("4 and 8 by 3", x, 3, 0, 3, 3, 3, 3);
-        cut("4 and 8 by 4", x, 4, 1, 4, 4, 4);
-        cut("4 and 8 by 5", x, 5, 1, 4, 3, 5);
+        EVENINGS.cut("4 and 8 by 3", x, 3, 0, 3, 3, 3, 3);
+        EVENINGS.cut("4 and 8 by 4", x, 4, 1, 4, 4, 4);
+        EVENINGS.cut("4 and 8 by 5", x, 5, 1, 4, 3, 5);
         for (int l = 0; l < 12; l++) {
             x.layer(l, l % 4 < 2 ? 1 : 2);
         }
-        cut("twos by 3", x, 3, 6, 2, 2, 2, 2, 2, 2);
-        cut("twos by 4", x, 4, 6, 4, 4, 4);
-        cut("twos by 5", x, 5, 6, 4, 4, 4);
+        EVENINGS.cut("twos by 3", x, 3, 6, 2, 2, 2, 2, 2, 2);
+        EVENINGS.cut("twos by 4", x, 4, 6, 4, 4, 4);
+        EVENINGS.cut("twos by 5", x, 5, 6, 4, 4, 4);
     }
 }

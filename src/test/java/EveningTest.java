@@ -1,6 +1,7 @@
 /** Promises 15 to 20: an evening. */
 public final class EveningTest {
     private static final Check CHECK = new Check("EveningTest");
+    private static final Evenings EVENINGS = new Evenings(CHECK);
     private static final int MAX = Integer.MAX_VALUE;
     private static final int MIN = Integer.MIN_VALUE;
 
@@ -21,22 +22,6 @@ public final class EveningTest {
         cutTies();
         cutWrong();
         CHECK.end();
-    }
-
-    private static void tell(CoalWood x, int... weathers) {
-        x.dark();
-        for (int weather : weathers) {
-            x.evening(weather);
-        }
-    }
-
-    private static void fewest(String what, CoalWood x, int... lumps) {
-        due(what + ": how many", x.fewest(CoalWood.NONE), lumps.length);
-        for (int i = 0; i < lumps.length; i++) {
-            due(what + ": the " + i + "-th", x.fewest(i), lumps[i]);
-        }
-        due(what + ": not so many", x.fewest(lumps.length), -5);
-        due(what + ": not so many", x.fewest(MAX), -5);
     }
 
     /** Promises 15 and 16. */
@@ -61,25 +46,25 @@ public final class EveningTest {
     /** Promise 17: PLAIN 3 3 1, BACK 1 3 3, SLACK 3 1, DAMP 3 3 3 3 1 1, CANNEL 1 3 3, SPIT 3 3 1. */
     private static void fewestIsExact() {
         CoalWood x = Pits.kinds();
-        fewest("an empty evening", x);
+        EVENINGS.fewest("an empty evening", x);
         due("an empty evening: rows", x.rows(), 1);
-        tell(x, 3, 3, 1);
-        fewest("one lump", x, 0);
-        tell(x, 3, 3, 1, 3, 3, 1);
-        fewest("smoke is left out", x, 0, 5);
+        Evenings.tell(x, 3, 3, 1);
+        EVENINGS.fewest("one lump", x, 0);
+        Evenings.tell(x, 3, 3, 1, 3, 3, 1);
+        EVENINGS.fewest("smoke is left out", x, 0, 5);
         due("smoke is left out: rows", x.rows(), 2);
-        tell(x, 3, 3, 3, 3, 1, 1);
-        fewest("all of a lump", x, 3);
-        tell(x, 3, 1, 1, 3, 3);
-        fewest("the first of like rows", x, 2, 1);
+        Evenings.tell(x, 3, 3, 3, 3, 1, 1);
+        EVENINGS.fewest("all of a lump", x, 3);
+        Evenings.tell(x, 3, 1, 1, 3, 3);
+        EVENINGS.fewest("the first of like rows", x, 2, 1);
         due("like rows", x.rows(), 2);
-        tell(x, 3, 3, 1, 1, 3, 3, 1, 3, 3);
-        fewest("three lumps", x, 0, 1, 4);
-        tell(x, 3, 3);
+        Evenings.tell(x, 3, 3, 1, 1, 3, 3, 1, 3, 3);
+        EVENINGS.fewest("three lumps", x, 0, 1, 4);
+        Evenings.tell(x, 3, 3);
         due("a part of a lump is none", x.fewest(CoalWood.NONE), -5);
         due("none: the 0-th", x.fewest(0), -5);
         due("none: rows", x.rows(), 0);
-        tell(x, 3, 1, 3, 1);
+        Evenings.tell(x, 3, 1, 3, 1);
         due("each once at most", x.fewest(CoalWood.NONE), -5);
         due("-5 is not in STATUS", x.status(0) + x.status(1) + x.status(2), 0);
     }
@@ -91,41 +76,41 @@ public final class EveningTest {
         x.lump(0, 0, 1);
         x.lump(0, 1, 1);
         x.lump(0, 0, 2);
-        tell(x, 0, 1);
-        fewest("one lump ahead of two", x, 2);
+        Evenings.tell(x, 0, 1);
+        EVENINGS.fewest("one lump ahead of two", x, 2);
         due("rows of any number", x.rows(), 2);
-        tell(x, 0, 1, 0, 1);
-        fewest("of three, the first", x, 0, 1, 2);
+        Evenings.tell(x, 0, 1, 0, 1);
+        EVENINGS.fewest("of three, the first", x, 0, 1, 2);
         due("two rows of three", x.rows(), 2);
         CoalWood z = new CoalWood();
         z.layer(1, 1);
         z.lump(0, 0, 2);
         z.lump(0, 0, 1);
         z.lump(0, 1, 1);
-        tell(z, 0, 1);
-        fewest("one lump, two come later", z, 0);
+        Evenings.tell(z, 0, 1);
+        EVENINGS.fewest("one lump, two come later", z, 0);
         CoalWood y = new CoalWood();
         y.layer(1, 1);
         y.lump(0, 0, 2);
         y.lump(0, 2, 1);
         y.lump(1, 0, 2);
         y.lump(0, 0, 1);
-        tell(y, 0, 1, 0);
-        fewest("the first row", y, 0, 1);
-        tell(y, 0, 0, 1, 1, 0);
-        fewest("the least one comes first though a greater could", y, 1, 0, 2);
+        Evenings.tell(y, 0, 1, 0);
+        EVENINGS.fewest("the first row", y, 0, 1);
+        Evenings.tell(y, 0, 0, 1, 1, 0);
+        EVENINGS.fewest("the least one comes first though a greater could", y, 1, 0, 2);
     }
 
     private static void fewestBurnt() {
         CoalWood x = Pits.kinds();
-        tell(x, 3, 3, 1);
+        Evenings.tell(x, 3, 3, 1);
         x.burn(0);
-        fewest("0 is BURNT", x, 5);
+        EVENINGS.fewest("0 is BURNT", x, 5);
         x.burn(5);
         due("0 and 5 are BURNT", x.fewest(CoalWood.NONE), -5);
         due("0 and 5 are BURNT: rows", x.rows(), 0);
         x.undo();
-        fewest("5 is there again", x, 5);
+        EVENINGS.fewest("5 is there again", x, 5);
     }
 
     private static void fewestWrong() {
@@ -133,7 +118,7 @@ public final class EveningTest {
         due("fewest(-2)", x.fewest(-2), -10);
         due("fewest(min)", x.fewest(MIN), -10);
         due("status(0)", x.status(0), 2);
-        tell(x, 4);
+        Evenings.tell(x, 4);
         due("BAD ahead of none", x.fewest(-2), -10);
         due("status(0) then", x.status(0), 3);
     }
@@ -155,11 +140,11 @@ public final class EveningTest {
         y.lump(0, 0, 2);
         y.lump(0, 0, 3);
         y.lump(2, 0, 6);
-        tell(y, 0, 0, 0);
+        Evenings.tell(y, 0, 0, 0);
         due("rows of any number of lumps", y.rows(), 4);
-        tell(y, 0, 0, 0, 0, 0, 0);
+        Evenings.tell(y, 0, 0, 0, 0, 0, 0);
         due("1 2 3 in six rows, 1 2 and SLACK in six, 3 and SLACK in two", y.rows(), 14);
-        fewest("of fewest", y, 2, 3);
+        EVENINGS.fewest("of fewest", y, 2, 3);
     }
 
     /** Promise 19. */
@@ -214,48 +199,38 @@ public final class EveningTest {
         due("how much", y.best(96, 1), 48);
     }
 
-    private static void cut(String what, CoalWood x, int c, int whole, int... sizes) {
-        due(what + ": AFTERNOONS", x.cut(c, -2), whole);
-        due(what + ": LUMPS", x.cut(c, CoalWood.NONE), sizes.length);
-        for (int i = 0; i < sizes.length; i++) {
-            due(what + ": the " + i + "-th", x.cut(c, i), sizes[i]);
-        }
-        due(what + ": not so many", x.cut(c, sizes.length), -5);
-        due(what + ": not so many", x.cut(c, MAX), -5);
-    }
-
     /** Promise 20: 1 1 2 3 3 1 2 0 0 0 0 5. */
     private static void cut() {
         CoalWood x = Pits.seam();
-        cut("seam by 1", x, 1, 4, 1, 1, 1, 1, 1, 1, 1, 1, 1, 1, 1, 1);
-        cut("seam by 2", x, 2, 6, 2, 1, 2, 1, 2, 2, 2);
-        cut("seam by 3", x, 3, 6, 3, 3, 3, 3);
-        cut("seam by 4", x, 4, 7, 3, 4, 4, 1);
-        cut("seam by 5", x, 5, 7, 2, 5, 5);
-        cut("seam by 6", x, 6, 7, 6, 6);
+        EVENINGS.cut("seam by 1", x, 1, 4, 1, 1, 1, 1, 1, 1, 1, 1, 1, 1, 1, 1);
+        EVENINGS.cut("seam by 2", x, 2, 6, 2, 1, 2, 1, 2, 2, 2);
+        EVENINGS.cut("seam by 3", x, 3, 6, 3, 3, 3, 3);
+        EVENINGS.cut("seam by 4", x, 4, 7, 3, 4, 4, 1);
+        EVENINGS.cut("seam by 5", x, 5, 7, 2, 5, 5);
+        EVENINGS.cut("seam by 6", x, 6, 7, 6, 6);
     }
 
     private static void cutTies() {
         CoalWood x = new CoalWood();
-        cut("one afternoon by 1", x, 1, 0, 1, 1, 1, 1, 1, 1, 1, 1, 1, 1, 1, 1);
-        cut("one afternoon by 5", x, 5, 0, 2, 5, 5);
-        cut("one afternoon by 6", x, 6, 0, 6, 6);
+        EVENINGS.cut("one afternoon by 1", x, 1, 0, 1, 1, 1, 1, 1, 1, 1, 1, 1, 1, 1, 1);
+        EVENINGS.cut("one afternoon by 5", x, 5, 0, 2, 5, 5);
+        EVENINGS.cut("one afternoon by 6", x, 6, 0, 6, 6);
         x.layer(0, 1);
-        cut("fewest lumps only as far as afternoons stay whole", x, 6, 1, 6, 6);
+        EVENINGS.cut("fewest lumps only as far as afternoons stay whole", x, 6, 1, 6, 6);
         x.layer(11, 1);
-        cut("an afternoon at each end", x, 5, 2, 2, 5, 5);
+        EVENINGS.cut("an afternoon at each end", x, 5, 2, 2, 5, 5);
         for (int l = 0; l < 12; l++) {
             x.layer(l, l / 3);
         }
-        cut("afternoons of 3 by 2", x, 2, 0, 2, 2, 2, 2, 2, 2);
-        cut("afternoons of 3 by 3", x, 3, 4, 3, 3, 3, 3);
-        cut("afternoons of 3 by 4", x, 4, 4, 3, 3, 3, 3);
-        cut("afternoons of 3 by 5", x, 5, 4, 3, 3, 3, 3);
-        cut("afternoons of 3 by 6", x, 6, 4, 6, 6);
+        EVENINGS.cut("afternoons of 3 by 2", x, 2, 0, 2, 2, 2, 2, 2, 2);
+        EVENINGS.cut("afternoons of 3 by 3", x, 3, 4, 3, 3, 3, 3);
+        EVENINGS.cut("afternoons of 3 by 4", x, 4, 4, 3, 3, 3, 3);
+        EVENINGS.cut("afternoons of 3 by 5", x, 5, 4, 3, 3, 3, 3);
+        EVENINGS.cut("afternoons of 3 by 6", x, 6, 4, 6, 6);
         for (int l = 0; l < 12; l++) {
             x.layer(l, l % 2);
         }
-        cut("afternoons of 1 by 5", x, 5, 12, 2, 5, 5);
+        EVENINGS.cut("afternoons of 1 by 5", x, 5, 12, 2, 5, 5);
     }
 
     private static void cutWrong() {

@@ -1,3 +1,5 @@
+import java.util.function.Supplier;
+
 /** Boundary cases of promises 9 to 14, each with the sentence of the document that names it. */
 public final class FiresEdgesTest {
     private static final Check CHECK = new Check("FiresEdgesTest");
@@ -151,10 +153,13 @@ public final class FiresEdgesTest {
 
     /** "NO: none may be." */
     private static void undoNone() {
-        new Twins(CHECK, CoalWood::new).answers("undo, new", CoalWood::undo, CoalWood.NO, Twins.NO).areAlike("undo, new");
-        new Twins(CHECK, Pits::kinds).answers("undo, no fire", CoalWood::undo, CoalWood.NO, Twins.NO).areAlike("no fire");
-        new Twins(CHECK, FiresEdgesTest::burntAheadOfALump).answers("undo, a lump came", CoalWood::undo, CoalWood.NO, Twins.NO)
-            .areAlike("undo, a lump came");
+        undoNone("undo, new", CoalWood::new);
+        undoNone("undo, no fire", Pits::kinds);
+        undoNone("undo, a lump came", FiresEdgesTest::burntAheadOfALump);
+    }
+
+    private static void undoNone(String name, Supplier<CoalWood> made) {
+        new Twins(CHECK, made).answers(name, CoalWood::undo, CoalWood.NO, Twins.NO).areAlike(name);
     }
 
     private static CoalWood burntAheadOfALump() {

@@ -1,3 +1,5 @@
+import java.util.function.Supplier;
+
 /** Boundary cases of promises 1 to 8, each with the sentence of the document that names it. */
 public final class PitEdgesTest {
     private static final Check CHECK = new Check("PitEdgesTest");
@@ -444,8 +446,12 @@ public final class PitEdgesTest {
 
     private static void unchanged(String text, int answer) {
         String name = "read of '" + text + "'";
-        new Twins(CHECK, () -> typed(Pits.middle(), text)).answers(name, CoalWood::read, answer, Twins.NOWHERE).areAlike(name);
-        new Twins(CHECK, () -> typed(Pits.brimful(), text)).answers(name, CoalWood::read, answer, Twins.NOWHERE).areAlike(name);
+        unchanged(name, () -> typed(Pits.middle(), text), answer);
+        unchanged(name, () -> typed(Pits.brimful(), text), answer);
+    }
+
+    private static void unchanged(String name, Supplier<CoalWood> made, int answer) {
+        new Twins(CHECK, made).answers(name, CoalWood::read, answer, Twins.NOWHERE).areAlike(name);
     }
 
     private static CoalWood typed(CoalWood x, String text) {

@@ -105,6 +105,7 @@ public final class RulesTest {
         while (imports.find()) {
             CHECK.that("import " + imports.group(1), imports.group(1).matches("java\\.util\\.(Arrays|ArrayList|List)"));
         }
+        library(source);
         Matcher methods = Pattern.compile("\n( {4}| {8})(?! )[^\n;=]*\\(([^)\n]*)\\) \\{\n(.*?)\n\\1\\}", Pattern.DOTALL).matcher(source);
         int found = 0;
         while (methods.find()) {
@@ -113,6 +114,20 @@ public final class RulesTest {
             CHECK.that("more than seven parameters: " + methods.group(), methods.group(2).split(",").length <= 7);
         }
         CHECK.that("methods found", found > 80);
+    }
+
+    /** Rule 4: static functions of the library as they are listed; Arrays.fill over numbers alone. */
+    private static void library(String source) {
+        String listed = "Arrays\\.(fill|copyOf|copyOfRange)|System\\.arraycopy|(Math|Integer|Long)\\.\\w+";
+        Matcher used = Pattern.compile("\\b(Arrays|System|Math|Integer|Long|String|List)\\.\\w+").matcher(source);
+        while (used.find()) {
+            CHECK.that("not in the list: " + used.group(), used.group().matches(listed));
+        }
+        Matcher filled = Pattern.compile("Arrays\\.fill\\((\\w+),").matcher(source);
+        while (filled.find()) {
+            boolean isNumbers = Pattern.compile("\\b(int|long)\\[\\] " + filled.group(1) + "\\b").matcher(source).find();
+            CHECK.that("not numbers: " + filled.group(), isNumbers);
+        }
     }
 
     /** Rows are made with the object: 500 calls of the dearest kinds make next to nothing. */

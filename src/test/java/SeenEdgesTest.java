@@ -7,6 +7,12 @@ public final class SeenEdgesTest {
     private static final int MIN = Integer.MIN_VALUE;
     private static final int PLAIN = 0, DAMP = 3;
     private static final long ALL_WALKS = 21992109L;
+    /** For each CELL, as bits: it and those beside it. */
+    private static final int[] BESIDE = {
+        0b000001011, 0b000010111, 0b000100110,
+        0b001011001, 0b010111010, 0b100110100,
+        0b011001000, 0b111010000, 0b110100000
+    };
 
     private static void due(String call, long got, long want) {
         CHECK.due(call, got, want);
@@ -309,12 +315,11 @@ public final class SeenEdgesTest {
 
     /** Ways of three days from a corner, counted out. */
     private static long seenThreeDays() {
-        int[] beside = {0b1011, 0b10111, 0b100110, 0b1011001, 0b10111010, 0b100110100, 0b11001000, 0b111010000, 0b110100000};
         long ways = 0;
         for (int a = 0; a < 9; a++) {
             for (int b = 0; b < 9; b++) {
                 for (int c = 0; c < 9; c++) {
-                    ways += (beside[0] >> a & beside[a] >> b & beside[b] >> c & 1) == 1 ? 1 : 0;
+                    ways += (BESIDE[0] >> a & BESIDE[a] >> b & BESIDE[b] >> c & 1) == 1 ? 1 : 0;
                 }
             }
         }
@@ -334,21 +339,21 @@ public final class SeenEdgesTest {
         }
         due("in the first row at last", y.places(11), 0b111);
         due("as many", x.walks(), y.walks());
-        due("the three from the last row", x.walks(), seenIn(0, 6).walks() + seenIn(0, 7).walks() + seenIn(0, 8).walks());
+        long lastRow = seenIn(0, 6).walks() + seenIn(0, 7).walks() + seenIn(0, 8).walks();
+        due("the three from the last row", x.walks(), lastRow);
     }
 
     /** "(above, below, left, right)": no way around an edge. */
     private static void placesOfEveryCell() {
-        int[] beside = {0b1011, 0b10111, 0b100110, 0b1011001, 0b10111010, 0b100110100, 0b11001000, 0b111010000, 0b110100000};
         for (int cell = 0; cell < 9; cell++) {
             for (int layer = 0; layer < 12; layer++) {
                 CoalWood x = seenIn(layer, cell);
                 due("in CELL " + cell + ", LAYER " + layer, x.places(layer), 1 << cell);
                 if (layer < 11) {
-                    due("the day behind CELL " + cell, x.places(layer + 1), beside[cell]);
+                    due("the day behind CELL " + cell, x.places(layer + 1), BESIDE[cell]);
                 }
                 if (layer > 0) {
-                    due("the day ahead of CELL " + cell, x.places(layer - 1), beside[cell]);
+                    due("the day ahead of CELL " + cell, x.places(layer - 1), BESIDE[cell]);
                 }
             }
         }
@@ -388,7 +393,8 @@ public final class SeenEdgesTest {
 
     /** "none: no WALK"; "LEFT TO. NONE." */
     private static void leftToNoWalk() {
-        new Twins(CHECK, SeenEdgesTest::noWalk).answers("leftTo, no WALK", CoalWood::leftTo, CoalWood.NONE, Twins.NOWHERE)
+        new Twins(CHECK, SeenEdgesTest::noWalk)
+            .answers("leftTo, no WALK", CoalWood::leftTo, CoalWood.NONE, Twins.NOWHERE)
             .areAlike("leftTo, no WALK");
     }
 
@@ -468,7 +474,9 @@ public final class SeenEdgesTest {
         };
         for (int[] n : numbers) {
             String name = "odds(" + n[0] + ", " + n[1] + ", " + n[2] + ")";
-            new Twins(CHECK, Pits::middle).answers(name, x -> x.odds(n[0], n[1], n[2]), CoalWood.BAD, Twins.BAD).areAlike(name);
+            new Twins(CHECK, Pits::middle)
+                .answers(name, x -> x.odds(n[0], n[1], n[2]), CoalWood.BAD, Twins.BAD)
+                .areAlike(name);
         }
         CoalWood x = Pits.middle();
         due("THE FRACTION", x.part(0), 343);
@@ -497,9 +505,12 @@ public final class SeenEdgesTest {
 
     private static int drawn(int seed, int n, int[] worths) {
         BigInteger x = BigInteger.valueOf(seed);
+        BigInteger times = BigInteger.valueOf(1103515245);
+        BigInteger more = BigInteger.valueOf(12345);
+        BigInteger by = BigInteger.valueOf(2147483648L);
         int all = 0;
         for (int k = 0; k < n; k++) {
-            x = x.multiply(BigInteger.valueOf(1103515245)).add(BigInteger.valueOf(12345)).mod(BigInteger.valueOf(2147483648L));
+            x = x.multiply(times).add(more).mod(by);
             all += worths[x.divide(BigInteger.valueOf(65536)).mod(BigInteger.valueOf(8)).intValue()];
         }
         return all;
