@@ -1,4 +1,4 @@
-/** Boundary cases of promises 15 to 20, each with the sentence of the document that names it. */
+/** Boundary cases of promises 15 to 20, most with the sentence of the document that names them. */
 public final class EveningEdgesTest {
     private static final Check CHECK = new Check("EveningEdgesTest");
     private static final Evenings EVENINGS = new Evenings(CHECK);

@@ -1,6 +1,6 @@
 import java.util.function.Supplier;
 
-/** Boundary cases of promises 9 to 14, each with the sentence of the document that names it. */
+/** Boundary cases of promises 9 to 14, most with the sentence of the document that names them. */
 public final class FiresEdgesTest {
     private static final Check CHECK = new Check("FiresEdgesTest");
     private static final int PLAIN = 0, BACK = 1, SLACK = 2, DAMP = 3, CANNEL = 4, SPIT = 5;

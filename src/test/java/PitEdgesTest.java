@@ -1,6 +1,6 @@
 import java.util.function.Supplier;
 
-/** Boundary cases of promises 1 to 8, each with the sentence of the document that names it. */
+/** Boundary cases of promises 1 to 8, most with the sentence of the document that names them. */
 public final class PitEdgesTest {
     private static final Check CHECK = new Check("PitEdgesTest");
     private static final String WORDS = "pit layer price lump";

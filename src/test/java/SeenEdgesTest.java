@@ -1,6 +1,6 @@
 import java.math.BigInteger;
 
-/** Boundary cases of promises 21 to 30, each with the sentence of the document that names it. */
+/** Boundary cases of promises 21 to 30, most with the sentence of the document that names them. */
 public final class SeenEdgesTest {
     private static final Check CHECK = new Check("SeenEdgesTest");
     private static final int MAX = Integer.MAX_VALUE;

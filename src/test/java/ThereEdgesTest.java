@@ -1,7 +1,7 @@
 import java.math.BigInteger;
 import java.util.function.ToLongFunction;
 
-/** Boundary cases of promises 31 to 36, each with the sentence of the document that names it. */
+/** Boundary cases of promises 31 to 36, most with the sentence of the document that names them. */
 public final class ThereEdgesTest {
     private static final Check CHECK = new Check("ThereEdgesTest");
     private static final int MAX = Integer.MAX_VALUE;
