@@ -119,9 +119,9 @@ public final class EveningEdgesTest {
     private static void fewestNotSoMany() {
         int[] numbers = {2, 3, 7, 8, 10, 99, MAX - 1, MAX};
         for (int i : numbers) {
-            String name = "EVENINGS.fewest(" + i + ") of two";
+            String name = "fewest(" + i + ") of two";
             new Twins(CHECK, EveningEdgesTest::two).answers(name, x -> x.fewest(i), -5, Twins.NOWHERE).areAlike(name);
-            name = "EVENINGS.fewest(" + i + ") of none";
+            name = "fewest(" + i + ") of none";
             new Twins(CHECK, Pits::middle).answers(name, x -> x.fewest(i), -5, Twins.NOWHERE).areAlike(name);
         }
         due("the last of two", two().fewest(1), 5);
@@ -137,7 +137,7 @@ public final class EveningEdgesTest {
     private static void fewestWrong() {
         int[] numbers = {-2, -3, -5, -10, MIN + 1, MIN};
         for (int i : numbers) {
-            String name = "EVENINGS.fewest(" + i + ")";
+            String name = "fewest(" + i + ")";
             new Twins(CHECK, EveningEdgesTest::two).answers(name, x -> x.fewest(i), -10, Twins.BAD).areAlike(name);
             new Twins(CHECK, CoalWood::new).answers(name, x -> x.fewest(i), -10, Twins.BAD).areAlike(name);
             new Twins(CHECK, Pits::brimful).answers(name, x -> x.fewest(i), -10, Twins.BAD).areAlike(name);
@@ -417,7 +417,7 @@ public final class EveningEdgesTest {
             due("by " + c + ", all together", sum, 12);
             int[] numbers = {lumps, lumps + 1, 12, 13, MAX - 1, MAX};
             for (int i : numbers) {
-                String name = "EVENINGS.cut(" + c + ", " + i + ")";
+                String name = "cut(" + c + ", " + i + ")";
                 new Twins(CHECK, CoalWood::new).answers(name, y -> y.cut(size, i), -5, Twins.NOWHERE).areAlike(name);
             }
         }
@@ -432,7 +432,7 @@ public final class EveningEdgesTest {
             {0, MAX}, {7, MAX}, {MIN, MIN}, {MAX, MIN}
         };
         for (int[] pair : numbers) {
-            String name = "EVENINGS.cut(" + pair[0] + ", " + pair[1] + ")";
+            String name = "cut(" + pair[0] + ", " + pair[1] + ")";
             new Twins(CHECK, Pits::middle).answers(name, x -> x.cut(pair[0], pair[1]), -10, Twins.BAD).areAlike(name);
         }
     }

@@ -1,10 +1,16 @@
+import java.util.ArrayDeque;
+import java.util.Deque;
 import java.util.Random;
 
-/** Long runs of calls by a seed, each answer against SlowWood's, and the digest behind each call. */
+/**
+ * Runs of 512 calls by a seed, as many as an object is used for, each answer against SlowWood's: in every other run
+ * the digest is asked for behind each call, in the others there are twice as many other calls.
+ */
 public final class ModelTest {
     private static final Check CHECK = new Check("ModelTest");
     private static final int RUNS = 600;
-    private static final int CALLS = 250;
+    /** The digest and three of STATUS come last. */
+    private static final int CALLS = 512 - 4;
     private static final int[] ODD_NUMBERS = {
         Integer.MIN_VALUE, -1001, -11, -10, -5, -4, -3, -2, -1, 6, 7, 8, 9, 10, 11, 12, 13, 20, 21, 60, 61,
         99, 100, 127, 128, 150, 999999, 1000000, Integer.MAX_VALUE
@@ -16,7 +22,8 @@ public final class ModelTest {
     /** Few weathers make rows, clashes and afternoons likely. */
     private final int weathers;
     private final int oddity;
-    private String typed = "";
+    /** Calls with their numbers that come next, if any. */
+    private final Deque<int[]> plan = new ArrayDeque<>();
 
     private ModelTest(long seed) {
         random = new Random(seed);
@@ -32,53 +39,131 @@ public final class ModelTest {
     }
 
     private void run(int seed) {
-        for (int k = 0; k < CALLS && !CHECK.isWrong(); k++) {
-            int call = nextCall(k);
-            int a = number(most(call, 0), least(call, 0));
-            int b = number(most(call, 1), least(call, 1));
-            int c = number(most(call, 2), least(call, 2));
-            if (call == 6 && random.nextInt(40) != 0) {
-                a = nextByte();
-            }
+        boolean digests = seed % 2 == 0;
+        int calls = digests ? CALLS / 2 : CALLS;
+        for (int k = 0; k < calls && !CHECK.isWrong(); k++) {
+            int[] next = nextCall(k);
+            int call = next[0];
+            int a = next[1];
+            int b = next[2];
+            int c = next[3];
             String name = "seed " + seed + ", call " + k + ": " + call + " of " + a + ", " + b + ", " + c;
             CHECK.due(name, ofWood(call, a, b, c), ofSlow(call, a, b, c));
-            CHECK.due(name + ", digest", x.digest(), y.digest());
+            if (digests) {
+                CHECK.due(name + ", digest", x.digest(), y.digest());
+            }
         }
+        CHECK.due("seed " + seed + ", digest", x.digest(), y.digest());
         for (int what = 0; what < 3; what++) {
             CHECK.due("seed " + seed + ", status(" + what + ")", x.status(what), y.status(what));
         }
     }
 
     /** Pits are dug at first; what asks comes later; pit, dark, forget, clear are seldom. */
-    private int nextCall(int k) {
-        if (typed.length() > 0) {
-            return 6;
+    private int[] nextCall(int k) {
+        if (plan.isEmpty() && k >= 30 && random.nextInt(12) == 0) {
+            planSomething();
+        }
+        if (!plan.isEmpty()) {
+            return plan.remove();
         }
         if (k < 30 && random.nextInt(3) > 0) {
-            return new int[] {3, 3, 4, 5, 5, 15}[random.nextInt(6)];
+            return withNumbers(new int[] {3, 3, 4, 5, 5, 15}[random.nextInt(6)]);
         }
         int call = 2 + random.nextInt(35);
         boolean seldom = call == 2 || call == 7 || call == 16 || call == 22;
         if (seldom && random.nextInt(4) > 0) {
-            return new int[] {3, 9, 15, 17, 18, 21, 25}[random.nextInt(7)];
+            return withNumbers(new int[] {3, 9, 15, 17, 18, 21, 25}[random.nextInt(7)]);
         }
-        if (call == 6) {
-            typed = text();
-        }
-        return call;
+        return withNumbers(call);
     }
 
-    private int nextByte() {
-        if (typed.isEmpty()) {
-            return ' ';
-        }
-        char c = typed.charAt(0);
-        typed = typed.substring(1);
-        return c;
+    private int[] withNumbers(int call) {
+        int a = number(most(call, 0), least(call, 0));
+        int b = number(most(call, 1), least(call, 1));
+        int c = number(most(call, 2), least(call, 2));
+        return new int[] {call, a, b, c};
     }
 
-    private String text() {
-        StringBuilder text = new StringBuilder(y.count(8) == 0 ? "pit;" : "");
+    /** What calls by chance alone seldom come to: an evening that lumps show, a lump or a walk that there is. */
+    private void planSomething() {
+        switch (random.nextInt(4)) {
+            case 0: planText(); break;
+            case 1: planEvening(); break;
+            case 2: planSeen(); break;
+            default: planWalk();
+        }
+    }
+
+    private void then(int call, int a, int b, int c) {
+        plan.add(new int[] {call, a, b, c});
+    }
+
+    /** Anew, or behind what is typed already. */
+    private void planText() {
+        boolean anew = random.nextInt(4) > 0;
+        if (anew) {
+            then(7, 0, 0, 0);
+        }
+        for (char c : text(anew).toCharArray()) {
+            then(6, c, 0, 0);
+        }
+        then(8, 0, 0, 0);
+    }
+
+    /** What some lumps show that have room in it, the burnt ones left out more often than not. */
+    private void planEvening() {
+        then(16, 0, 0, 0);
+        int room = 10;
+        int from = random.nextInt(8);
+        int by = 1 + 2 * random.nextInt(4);
+        for (int k = random.nextInt(9); k > 0; k--) {
+            int lump = (from + k * by) % 8;
+            boolean there = lump < y.count(0) && (y.of(lump, 3) == 0 || random.nextInt(4) == 0);
+            if (there && y.shown(lump).size() <= room) {
+                y.shown(lump).forEach(weather -> then(15, weather, 0, 0));
+                room -= y.shown(lump).size();
+            }
+        }
+        then(18, 0, 0, 0);
+        for (int i = -1; i < 5; i++) {
+            then(17, i, 0, 0);
+        }
+    }
+
+    private void planSeen() {
+        int n = 1 + random.nextInt(6);
+        int kind = random.nextInt(6);
+        int a = random.nextInt(13 - n);
+        then(22, 0, 0, 0);
+        for (int k = random.nextInt(6); k > 0; k--) {
+            int t = random.nextInt(13);
+            then(21, n, t, y.weatherOf(kind, a, n, t));
+            then(23, 0, 0, 0);
+            then(23, 1, 0, 0);
+            then(24, 0, 0, 0);
+        }
+    }
+
+    private void planWalk() {
+        then(22, 0, 0, 0);
+        int cell = random.nextInt(9);
+        for (int layer = 0; layer < 12; layer++) {
+            int next = random.nextInt(9);
+            boolean isBeside = Math.abs(next / 3 - cell / 3) + Math.abs(next % 3 - cell % 3) <= 1;
+            cell = isBeside ? next : cell;
+            if (random.nextInt(3) == 0) {
+                int there = random.nextInt(3) > 0 ? 1 : 0;
+                then(25, layer, there == 1 ? cell : (cell + 1 + random.nextInt(8)) % 9, there);
+            }
+            then(27, random.nextInt(12), 0, 0);
+        }
+        then(26, 0, 0, 0);
+        then(28, 0, 0, 0);
+    }
+
+    private String text(boolean anew) {
+        StringBuilder text = new StringBuilder(anew ? "pit;" : "");
         for (int k = random.nextInt(5); k > 0; k--) {
             String gap = " ".repeat(1 + random.nextInt(5) / 4);
             switch (random.nextInt(4)) {
@@ -89,7 +174,7 @@ public final class ModelTest {
                     text.append("price").append(random.nextInt(6)).append(gap).append(random.nextInt(10));
                     break;
                 default:
-                    text.append("lump").append(random.nextInt(6)).append(gap).append(random.nextInt(7)).append(gap);
+                    text.append("lump").append(random.nextInt(6)).append(gap).append(random.nextInt(8)).append(gap);
                     text.append(1 + random.nextInt(6));
             }
             text.append(random.nextInt(12) == 0 ? " ; " : ";");

@@ -126,7 +126,8 @@ final class SlowWood {
         return t < row.size() && row.get(t) != NONE ? a + row.get(t) : NONE;
     }
 
-    private int weatherOf(int kind, int a, int n, int t) {
+    /** The weather that a lump would show; NONE: smoke or ash. */
+    int weatherOf(int kind, int a, int n, int t) {
         int layer = layerOf(kind, a, n, t);
         return layer == NONE ? NONE : s.weathers[layer];
     }
@@ -141,7 +142,8 @@ final class SlowWood {
         return own(l.kind, l.n).size();
     }
 
-    private List<Integer> shown(int lump) {
+    /** The weathers that a lump there is shows. */
+    List<Integer> shown(int lump) {
         List<Integer> row = new ArrayList<>();
         for (int t = 0; t < steps(lump); t++) {
             if (weatherOf(lump, t) != NONE) {
